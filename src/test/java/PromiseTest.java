@@ -277,9 +277,21 @@ public final class PromiseTest {
     due("may is not so", x.cut(0, 0, 0), NONE);
     x.hour(1);
     due("may is so", x.cut(0, 0, 0), 0);
+    x = six();
+    x.hour(1);
+    x.last(1, 0);
+    due("by one that is gone", x.cut(0, 1, 0), NONE);
+    due("by those that are there", x.cut(0, 0, 0), 7);
+    due("by those that are there", x.cut(0, 2, 0), 8);
     x = small();
-    x.last(0, 0);
-    due("by one that is gone", x.cut(0, 0, 0), NONE);
+    x.reaper(1);
+    due("a reach of 1", x.cut(0, 1, 0), 0);
+    due("a length of 1", x.bale(0, 1), 1);
+    x.thing(1, 1, 1);
+    x.hour(3);
+    due("a shadow of 1", x.of(1, 4), 1);
+    due("a shadow of 1", x.cut(1, 0, 0), 1);
+    due("a length of 1", x.bale(1, 1), 1);
   }
 
   private static void last() {
@@ -312,7 +324,9 @@ public final class PromiseTest {
     }
     due("without a bale that is none", x.last(0, 0), NONE);
     x.sell(3);
-    due("with one", x.last(0, 0), 3);
+    due("with one", x.last(2, 0), 3);
+    due("others are there", x.ofReaper(0, 1) + x.ofReaper(1, 1), 2);
+    due("it is gone", x.ofReaper(2, 1), 0);
   }
 
   private static void use() {
@@ -328,7 +342,8 @@ public final class PromiseTest {
     due("the rest is whole", x.bale(2, 1), 30);
     due("another barn", x.ofBarn(1, 1), 60);
     due("steps", x.about(10), 8);
-    due("use(45, 0)", x.use(45, 0), 0);
+    due("use(1, 0)", x.use(1, 0), 44);
+    due("use(44, 0)", x.use(44, 0), 0);
     due("all are none", x.bale(2, 0), NONE);
     due("use(1, 0)", x.use(1, 0), NONE);
 
@@ -460,13 +475,18 @@ public final class PromiseTest {
     due("dark, 99 at most", x.bale(0, 2), 99);
 
     x = six();
-    rule(x, "spoils here*5;grows grown+kind;");
+    rule(x, "spoils here*4;grows grown+kind;");
     x.hour(9);
     due("three there", x.bale(0, 1), NONE);
-    due("two are left behind the first", x.bale(1, 1), 10);
-    due("two", x.bale(2, 1), 20);
+    due("two are left behind the first", x.bale(1, 1), 12);
+    due("two", x.bale(2, 1), 22);
     due("three there", x.bale(3, 1), NONE);
-    due("two are left behind the first", x.bale(4, 1), 10);
+    due("two are left behind the first", x.bale(4, 1), 12);
+    x = six();
+    rule(x, "spoils here*3;");
+    x.hour(9);
+    due("three there", x.bale(0, 1), 1);
+    due("three", x.bale(2, 1), 21);
     x = six();
     rule(x, "spoils dark*10+1;grows day*3+cloud;");
     int before = x.of(1, 3);
@@ -507,6 +527,7 @@ public final class PromiseTest {
     due("decades(0, 2)", x.decades(0, 2), 10);
     due("x", x.about(7), 13246);
     // a sale of none; an hour; 1 cut by 0 to 0
+    due("decades(1, 1)", x.decades(1, 1), 10);
     due("decades(1, 2)", x.decades(1, 2), 10);
     due("x", x.about(7), 28338);
     due("decades(1, 3)", x.decades(1, 3), 10);
@@ -587,6 +608,9 @@ public final class PromiseTest {
     dueFault("longs 5;", 1, 0);
     dueFault("lon 5;", 1, 0);
     dueFault("longlonglong 5;", 1, 0);
+    for (char c : "azAZ".toCharArray()) dueFault("long" + c + " 5;", 1, 0);
+    for (char c : "`{@[".toCharArray()) dueFault("long" + c + " 5;", 1, 4);
+    for (char c : "/:".toCharArray()) dueFault("hour 1" + c + "1;", 1, 6);
     dueFault("long", 1, 4);
     dueFault("long ", 1, 5);
     dueFault("long 5", 1, 6);
@@ -800,6 +824,9 @@ public final class PromiseTest {
     dueMay("1=2 or 1=2 or 1=1", 1);
     dueMay("1=1 and 1=1 and 1=2", 0);
     dueMay("1=1 and 1=1 and 1=1", 1);
+    dueMay("1=1 and 1<2 and 1<=2 and 2>1 and 2>=1 and 1#2", 1);
+    dueMay("not 1<2 or not 1<=2 or not 2>1 or not 2>=1 or not 1#2 or not 1=1", 0);
+    dueMay("not 2<1 and not 2<=1 and not 1>2 and not 1>=2 and not 1#1 and not 1=2", 1);
     dueMay("not 1=2 and 1=2", 0);
     dueMay("not 1=1", 0);
     dueMay("not not 1=1", 1);
@@ -1028,6 +1055,7 @@ public final class PromiseTest {
     x.cut(0, 0, 0);
     for (int v : new int[] {-1, 0, 61, Integer.MAX_VALUE, Integer.MIN_VALUE}) due("foretold(v, 0)", x.foretold(v, 0), NONE);
     for (int v : new int[] {-1, 1, 8, Integer.MAX_VALUE, Integer.MIN_VALUE}) due("foretold(1, v)", x.foretold(1, v), NONE);
+    due("foretold(1, 0)", x.foretold(1, 0), 0);
     due("foretold(9, 0)", x.foretold(9, 0), 0);
     due("foretold(10, 0)", x.foretold(10, 0), 10);
     due("foretold(40, 0): no growth under a cloud of 9", x.foretold(40, 0), 30);
@@ -1045,6 +1073,7 @@ public final class PromiseTest {
     BaledShade x = six();
     for (int v : new int[] {-1, 0, 61, Integer.MAX_VALUE, Integer.MIN_VALUE}) due("stored(v, 0)", x.stored(v, 0), NONE);
     for (int v : new int[] {-1, 2, 4, Integer.MAX_VALUE, Integer.MIN_VALUE}) due("stored(1, v)", x.stored(1, v), NONE);
+    due("stored(1, 0)", x.stored(1, 0), 60);
     due("stored(8, 0)", x.stored(8, 0), 60);
     due("stored(9, 1)", x.stored(9, 1), 57);
     due("stored(60, 1)", x.stored(60, 1), 42);
@@ -1142,8 +1171,16 @@ public final class PromiseTest {
     x.need(20, 1);
     x.need(21, 999);
     due("20 days", x.unmet(20), NONE);
+    due("21 days", x.unmet(21), NONE);
     hours(x, 200);
     due("the next day", x.unmet(1), 1);
+    x = six();
+    x.need(2, 999);
+    x.hour(8);
+    due("at hour 9 one day", x.unmet(1), NONE);
+    due("at hour 9 two days", x.unmet(2), 0);
+    x.hour(1);
+    due("at hour 0 one day", x.unmet(1), 0);
     x = six();
     hours(x, 9987);
     due("day", x.about(4), 998);
@@ -1186,6 +1223,17 @@ public final class PromiseTest {
     due("those that are none aren't counted", x.enough(10, 9), 36);
     due("those that are none aren't counted", x.enough(11, 9), NONE);
     due("nothing is changed", x.ofBarn(0, 1), 60);
+    x = big();
+    for (int i = 0; i < 12; i++) {
+      x.cut(i % 2, i == 11 ? 1 : 0, 0);
+      x.hour(1);
+    }
+    rule(x, "spoils 0;");
+    for (int i = 0; i < 12; i++) due("bale", x.bale(i, 1) > 0, true);
+    due("the greatest number", x.enough(15, 0), 2048);
+    due("and the lowest", x.enough(22, 0), 2049);
+    due("all", x.enough(x.ofBarn(0, 1), 0), 4095);
+    due("more than all", x.enough(x.ofBarn(0, 1) + 1, 0), NONE);
   }
 
   private static void over() {
@@ -1197,6 +1245,8 @@ public final class PromiseTest {
     for (int v : new int[] {-1, 10, Integer.MAX_VALUE, Integer.MIN_VALUE}) due("over(0, 1, v, 0)", x.over(0, 1, v, 0), NONE);
     for (int v : new int[] {-1, 2, Integer.MAX_VALUE, Integer.MIN_VALUE}) due("over(0, 1, 0, v)", x.over(0, 1, 0, v), NONE);
     due("over(0, 1, 5, 0), at a told hour", x.over(0, 1, 5, 0), 5);
+    due("over(0, 1, 0, 0)", x.over(0, 1, 0, 0), 30);
+    due("over(0, 1, 9, 0)", x.over(0, 1, 9, 0), 25);
     due("over(1, 3, 0, 0): 60, 6, 6 or 60, 12", x.over(1, 3, 0, 0), 72);
     due("over(1, 3, 0, 1): none first", x.over(1, 3, 0, 1), 5);
     due("nothing is changed", x.of(1, 3), 100);
@@ -1237,6 +1287,9 @@ public final class PromiseTest {
     due("whose(1, 15, 999)", x.whose(1, 15, 999), 1);
     due("whose(2, 15, 0)", x.whose(2, 15, 0), 4);
     due("whose(0, 15, 0)", x.whose(0, 15, 0), 0);
+    due("whose(5, 999, 999)", x.whose(5, 999, 999), 0);
+    due("whose(0, 1, 0)", x.whose(0, 1, 0), 0);
+    due("at(0, 1, 0)", x.at(0, 1, 0), 0);
     due("whose(1, 31, 0)", x.whose(1, 31, 0), 0);
     promise(31, "at");
     for (int v : new int[] {-1, 3, 8, Integer.MAX_VALUE, Integer.MIN_VALUE}) due("at(v, 1, 0)", x.at(v, 1, 0), NONE);
@@ -1272,6 +1325,12 @@ public final class PromiseTest {
     x.thing(40, 1, 3);
     x.thing(50, 1, 4);
     // 30, 60, 90, 120; the commons 150
+    due("leave(10000, 0, 0, 0)", x.leave(10000, 0, 0, 0), NONE);
+    due("leave(0, 10000, 0, 0)", x.leave(0, 10000, 0, 0), NONE);
+    due("leave(0, 0, 10000, 0)", x.leave(0, 0, 10000, 0), NONE);
+    due("leave(0, 0, 0, 10000)", x.leave(0, 0, 0, 10000), NONE);
+    due("leave(9999, 0, 0, 0)", x.leave(9999, 0, 0, 0), 2);
+    due("leave(30, 9999, 0, 0)", x.leave(30, 9999, 0, 0), 4);
     due("leave(29, 0, 0, 0)", x.leave(29, 0, 0, 0), 1);
     due("leave(30, 59, 90, 120)", x.leave(30, 59, 90, 120), 2);
     due("leave(30, 61, 89, 120)", x.leave(30, 61, 89, 120), 4);
@@ -1451,12 +1510,12 @@ public final class PromiseTest {
     due("told anew", x.of(2, 0), 7);
     due("told anew", x.of(2, 3), 100);
     rule(x, "long 5;hour 3;");
-    x.need(4, 4);
+    x.need(4, 400);
     due("image() with all of it", x.image(), 2);
     tell(x, "long 6;");
     x.by(NONE);
     x.need(NONE, 0);
-    x.need(9, 9);
+    x.need(9, 1);
     x.need(9, 9);
     x.hour(60);
     due("back()", x.back(), 2);
@@ -1465,8 +1524,9 @@ public final class PromiseTest {
     due("the text is there", x.played(0), NONE);
     due("hour", x.about(3), 3);
     due("by(1)", x.by(1), false);
-    due("unmet", x.unmet(1), NONE);
-    due("the need of old", x.need(5, 5), 2);
+    due("the need of old", x.unmet(2), 0);
+    due("not before", x.unmet(1), NONE);
+    due("a need more", x.need(5, 5), 2);
 
     x = small();
     x.hour(2);
