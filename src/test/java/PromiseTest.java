@@ -1,24 +1,10 @@
-import java.nio.ByteBuffer;
-import java.nio.charset.StandardCharsets;
 import java.util.Arrays;
 
 /** Each promise by hand: ordinary inputs, the edges that the document names, wrong inputs. */
-public final class PromiseTest {
-  private static final int NONE = BaledShade.NONE;
+public final class PromiseTest extends Helpers {
   private static final int[] FAR = {Integer.MIN_VALUE, -2, Integer.MAX_VALUE};
-  private static int wrong = 0;
-  private static String promise = "";
 
-  private static void due(String call, long got, long want) {
-    if (got != want) {
-      wrong++;
-      System.out.println(promise + ": " + call + " answered " + got + ", due is " + want);
-    }
-  }
-
-  private static void due(String call, boolean got, boolean want) { due(call, got ? 1 : 0, want ? 1 : 0); }
-
-  private static void promise(int n, String name) { promise = "promise " + n + " (" + name + ")"; }
+  private static void promise(int n, String name) { heading("promise " + n + " (" + name + ")"); }
 
   public static void main(String[] args) {
     newObject();
@@ -62,87 +48,7 @@ public final class PromiseTest {
     hail();
     image();
     about();
-    System.out.println(wrong == 0 ? "PromiseTest: all answers are as due" : "PromiseTest: " + wrong + " answers are not as due");
-    if (wrong != 0) System.exit(1);
-  }
-
-  // ---- helpers
-
-  /** A THING of HEIGHT 10 (SHADOW 30 at HOUR 0), a REAPER of REACH 30, a BARN of ROOM 50. */
-  private static BaledShade small() {
-    BaledShade x = new BaledShade();
-    x.thing(10, 1, 0);
-    x.reaper(30);
-    x.barn(50);
-    return x;
-  }
-
-  /** Two THINGS of HEIGHT 99, REAPERS of REACH 10, 20, 30, two BARNS of ROOM 999. */
-  private static BaledShade big() {
-    BaledShade x = new BaledShade();
-    x.thing(99, 1, 0);
-    x.thing(99, 2, 1);
-    x.reaper(10);
-    x.reaper(20);
-    x.reaper(30);
-    x.barn(999);
-    x.barn(999);
-    return x;
-  }
-
-  /** The big one with BALES 0 .. 2 (10, 20, 30) in BARN 0 and 3 .. 5 (likewise) in BARN 1, at HOUR 1. */
-  private static BaledShade six() {
-    BaledShade x = big();
-    x.cut(0, 0, 0);
-    x.cut(1, 1, 0);
-    x.cut(0, 2, 0);
-    x.hour(1);
-    x.cut(0, 0, 1);
-    x.cut(1, 1, 1);
-    x.cut(0, 2, 1);
-    return x;
-  }
-
-  private static void hours(BaledShade x, int n) {
-    for (int left = n; left > 0; left -= 60) x.hour(Math.min(60, left));
-  }
-
-  private static void write(BaledShade x, String text) {
-    byte[] bytes = text.getBytes(StandardCharsets.ISO_8859_1);
-    byte[] padded = Arrays.copyOf(bytes, 320);
-    x.end(0);
-    for (int i = 0; i < bytes.length; i += 20) {
-      ByteBuffer b = ByteBuffer.wrap(padded, i, 20);
-      x.feed(b.getInt(), b.getInt(), b.getInt(), b.getInt(), b.getInt());
-    }
-    due("end(" + bytes.length + ") of " + text, x.end(bytes.length), bytes.length);
-  }
-
-  private static int tell(BaledShade x, String text) {
-    write(x, text);
-    return x.text();
-  }
-
-  /** The text is told and rules. */
-  private static void rule(BaledShade x, String text) {
-    int n = tell(x, text);
-    if (n == NONE) due("text() of " + text, n, 0);
-    due("by(" + n + ")", x.by(n), true);
-  }
-
-  private static void dueFault(String text, int fault, int place) {
-    BaledShade x = new BaledShade();
-    due("text() of " + text, tell(x, text), fault == 0 ? 0 : NONE);
-    due("fault(0) of " + text, x.fault(0), fault);
-    due("fault(1) of " + text, x.fault(1), place);
-    due("about(12) behind " + text, x.about(12), 0);
-    due("about(8) behind " + text, x.about(8), fault == 0 ? 1 : 0);
-  }
-
-  private static void fine(String text) { dueFault(text, 0, NONE); }
-
-  private static void dueAbout(BaledShade x, String when, int... all) {
-    for (int i = 0; i < all.length; i++) due("about(" + i + ") " + when, x.about(i), all[i]);
+    close("PromiseTest");
   }
 
   // ---- the promises
