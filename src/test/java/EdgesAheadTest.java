@@ -414,6 +414,21 @@ public final class EdgesAheadTest extends Helpers {
     due("on the last DAY", x.over(0, 8, 0, 1), 128);
     rule(x, "long grown;grows 100;");
     due("each DAY", x.over(0, 8, 0, 0), 800);
+    x = new BaledShade();
+    x.thing(99, 1, 0);
+    rule(x, "long grown*day/day;grows 1;");
+    due("100 at most, there being no SHADOW on DAY 0", x.over(0, 2, 0, 0), 100);
+    due("on DAY 1", x.over(0, 2, 0, 1), 2);
+    rule(x, "long grown*day/day;grows 100;");
+    due("100 at most", x.over(0, 3, 0, 0), 200);
+    BaledShade cut = with(10, 7, 50);
+    cut.cut(0, 0, 0);
+    rule(cut, "long grown*day;grows 22;");
+    due("77 and 22", cut.over(0, 2, 0, 0), 99);
+    for (String law : new String[] {"long grown*day;grows 23;", "long grown*day;grows 24;"}) {
+      rule(cut, law);
+      due("100 at most by " + law, cut.over(0, 2, 0, 0), 100);
+    }
     heading("OVER DAYS: from this one on (GROWN as now)");
     BaledShade y = small();
     y.cut(0, 0, 0);
@@ -480,6 +495,17 @@ public final class EdgesAheadTest extends Helpers {
     due("held to 999", x.whose(5, 999, 989), 32);
     due("held to 999", x.whose(5, 999, 999), 32);
     due("0 isn't 1", x.whose(3, 1, 10), 0);
+    heading("WHOSE: THINGS that are told");
+    BaledShade few = new BaledShade();
+    rule(few, "long 5;");
+    due("none is", few.whose(0, 5, 0), 0);
+    few.thing(9, 0, 0);
+    due("one is", few.whose(0, 5, 0), 1);
+    few.image();
+    few.thing(9, 0, 0);
+    due("two are", few.whose(0, 5, 0), 3);
+    few.back();
+    due("the second is gone", few.whose(0, 5, 0), 1);
     heading("WHOSE: at some HOUR; AT WHICH: the HOURS (bits)");
     rule(x, "long hour*9+1;");
     for (int h = 0; h < 10; h++) {
@@ -586,6 +612,11 @@ public final class EdgesAheadTest extends Helpers {
     due("with it", x.packed(15, NONE), NONE);
     due("without it", x.packed(23, NONE), 1);
     due("it alone", x.packed(8, 0), NONE);
+    for (int b : new int[] {0, 11}) {
+      x.sell(b);
+      due("BALE " + b, x.packed(1 << b, NONE), NONE);
+      due("BALE " + b + " with another", x.packed(1 << b | 2, 0), NONE);
+    }
     due("without BALES", new BaledShade().packed(1, NONE), NONE);
   }
 
@@ -625,6 +656,30 @@ public final class EdgesAheadTest extends Helpers {
     full.last(1, 1);
     due("where the other one is", full.packed(2, 0), 0);
     dueStill("where the other one is", full, () -> full.packed(1, 0), 0);
+    BaledShade told = with(10, 30, 30);
+    told.reaper(30);
+    told.cut(0, 0, 0);
+    told.image();
+    told.barn(999);
+    told.last(1, 1);
+    due("into two BARNS", told.packed(3, NONE), 2);
+    told.back();
+    told.hour(1);
+    told.sell(0);
+    told.barn(29);
+    told.cut(0, 0, 0);
+    told.last(1, 0);
+    due("BARNS that are gone are none", told.packed(1, 0), 0);
+    due("a BARN told anew has its own ROOM", told.ofBarn(1, 0), 29);
+    BaledShade gone = with(10, 30, 25);
+    gone.hour(1);
+    gone.cut(0, 0, 0);
+    gone.image();
+    gone.barn(999);
+    gone.move(0, 1);
+    gone.last(0, 1);
+    gone.back();
+    due("a BARN that is gone", gone.packed(1, 0), 0);
     heading("PACKED: none with two KINDS");
     BaledShade kinds = new BaledShade();
     for (int k = 0; k < 5; k++) kinds.thing(10, k, 0);

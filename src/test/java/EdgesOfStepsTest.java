@@ -278,6 +278,14 @@ public final class EdgesOfStepsTest extends Helpers {
     dueStill("gone already", x, () -> x.last(0, 0), NONE);
     x.hour(1);
     dueStill("gone in any HOUR", x, () -> x.last(0, 0), NONE);
+    BaledShade four = with(10, 10, 999);
+    for (int r = 1; r < 4; r++) four.reaper(10 + r);
+    for (int r = 0; r < 4; r++) {
+      int reaper = r;
+      due("last(" + r + ", 0)", four.last(r, 0), r);
+      for (int other = 0; other < 4; other++) due("who is there", four.ofReaper(other, 1), bit(other > r));
+      dueStill("gone already: " + r, four, () -> four.last(reaper, 0), NONE);
+    }
     heading("its own is a BALE of KIND 5, as long as REACH");
     for (int reach : new int[] {1, 99}) {
       BaledShade y = with(1, reach, 999);
