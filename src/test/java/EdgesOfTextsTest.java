@@ -1,4 +1,5 @@
 import java.util.ArrayList;
+import java.util.Arrays;
 import java.util.List;
 
 /** Terms II, sentence by sentence: the tape, TOKENS, CLAUSES, what SUMS are held to, FAULTS, laws, what is PLAYED. */
@@ -16,6 +17,7 @@ public final class EdgesOfTextsTest extends Helpers {
     blanks();
     letters();
     digits();
+    numbersForWords();
     signs();
     clauses();
     lawsOnce();
@@ -24,6 +26,7 @@ public final class EdgesOfTextsTest extends Helpers {
     numbersTold();
     names();
     whatNamesAre();
+    namesAsNow();
     fromTheLeft();
     division();
     heldTo();
@@ -58,6 +61,24 @@ public final class EdgesOfTextsTest extends Helpers {
     due("the tape", x.about(12), 7);
     for (int i = 0; i < 4; i++) due("by(" + i + ")", x.by(i), true);
     due("by(4)", x.by(4), false);
+    heading("a text with a FAULT leaves nothing to the next one");
+    BaledShade after = new BaledShade();
+    after.thing(10, 1, 0);
+    for (int i = 0; i < 6; i++) {
+      due("a FAULT at its end", tell(after, "hour 1;hour 1;long 1" + "+1".repeat(137)), NONE);
+      due("its place", after.fault(1), 294);
+    }
+    due("the next one", tell(after, "hour 3;long 7" + "+1".repeat(137) + ";"), 0);
+    due("its CLAUSES alone", after.played(0), NONE);
+    due("its HOURS alone", after.about(3), 3);
+    after.by(0);
+    due("its law alone", after.of(0, 4), 144);
+    tell(after, "hour 2;".repeat(24) + "x");
+    due("without laws", tell(after, "hour 1;"), 1);
+    after.by(1);
+    due("long", after.of(0, 4), 15);
+    due("played", after.played(1), NONE);
+    due("HOUR", after.about(3), 4);
     heading("a text that is read leaves the tape empty");
     BaledShade y = new BaledShade();
     write(y, "hour 1;");
@@ -194,6 +215,26 @@ public final class EdgesOfTextsTest extends Helpers {
     for (char c : "/:".toCharArray()) dueFault("hour 1" + c + ";", 1, 6);
     dueFault("long 1.5;", 1, 6);
     dueFault("long 0x1;", 1, 6);
+  }
+
+  private static void numbersForWords() {
+    heading("a NUMBER is no word, whichever it is");
+    for (int n = 0; n <= 40; n++) {
+      dueFault(n + " 1;", 1, 0);
+      dueFault("thing 1 " + n + " 1 of 1;", 1, 8);
+      dueFault("thing 1 kind 1 " + n + " 1;", 1, 15);
+      dueFault("cut 1 " + n + " 1 to 1;", 1, 6);
+      dueFault("cut 1 by 1 " + n + " 1;", 1, 11);
+      dueFault("use 1 " + n + " 1;", 1, 6);
+      dueFault("may 1<2 " + n + " 1<2;", 1, 8);
+      dueFault("may " + n + " 1<2;", 1, n < 10 ? 6 : 7);
+      dueFault("long part 1 " + n + " 1;", 1, 12);
+      dueFault("long " + n + " 5 of 1;", 1, n < 10 ? 7 : 8);
+      BaledShade x = new BaledShade();
+      x.thing(1, 1, 1);
+      rule(x, "long " + n + ";");
+      due("it is a NUMBER", x.of(0, 4), n);
+    }
   }
 
   private static void signs() {
@@ -408,6 +449,65 @@ public final class EdgesOfTextsTest extends Helpers {
     due("eleven", h.bale(4, 4), 11);
     h.sell(0);
     due("ten", h.bale(4, 4), 10);
+  }
+
+  /** KIND 3, OWNER 2, at HOUR 7 of DAY 13 (CLOUD 4); BALE 0 is DARK 3, BALE 1 DARK 0. */
+  private static BaledShade thirteenth() {
+    BaledShade x = new BaledShade();
+    x.thing(40, 3, 2);
+    x.reaper(20);
+    x.reaper(15);
+    x.barn(99);
+    hours(x, 100);
+    x.cut(0, 0, 0);
+    x.hour(37);
+    x.cut(0, 1, 0);
+    return x;
+  }
+
+  private static void namesAsNow() {
+    heading("NAMES are as now, each law alone");
+    int grown = thirteenth().of(0, 3);
+    due("GROWN", grown > 0 && grown < 100, true);
+    int shadow = 40 * grown * 3 / 200;
+    String[][] thing = {{"day", "13"}, {"kind", "3"}, {"height", "40"}, {"grown", "" + grown}, {"hour", "7"}, {"cloud", "4"}};
+    for (String[] n : thing) {
+      BaledShade x = thirteenth();
+      rule(x, "long " + n[0] + ";");
+      due("long " + n[0], x.of(0, 4), Integer.parseInt(n[1]));
+      if (n[0].equals("hour")) continue;
+      BaledShade y = thirteenth();
+      rule(y, "grows " + n[0] + ";");
+      due("grows " + n[0], y.of(0, 5), Integer.parseInt(n[1]));
+    }
+    String[][] may = {{"day", "13"}, {"kind", "3"}, {"height", "40"}, {"grown", "" + grown}, {"hour", "7"}, {"owner", "2"}, {"shadow", "" + shadow}};
+    for (String[] n : may) {
+      BaledShade x = thirteenth();
+      rule(x, "may " + n[0] + "=" + n[1] + ";");
+      due("may " + n[0] + "=" + n[1], x.of(0, 6), 1);
+      BaledShade y = thirteenth();
+      rule(y, "may " + n[0] + "#" + n[1] + ";");
+      due("may " + n[0] + "#" + n[1], y.of(0, 6), 0);
+      due("cut by " + n[0] + "#" + n[1], y.cut(0, 0, 0), NONE);
+    }
+    String[][] bale = {{"day", "13"}, {"kind", "3"}, {"dark", "3"}, {"length", "17"}, {"hour", "7"}, {"here", "2"}};
+    for (String[] n : bale) {
+      BaledShade x = thirteenth();
+      due("BALE 0", x.bale(0, 2) * 100 + x.bale(0, 1), 317);
+      if (!n[0].equals("here")) {
+        rule(x, "sells " + n[0] + ";");
+        due("sells " + n[0], x.bale(0, 5), Integer.parseInt(n[1]));
+        due("SOLD by " + n[0], x.sell(0), Integer.parseInt(n[1]));
+      }
+      if (n[0].equals("hour")) continue;
+      BaledShade y = thirteenth();
+      rule(y, "spoils " + n[0] + ";");
+      due("spoils " + n[0], y.bale(0, 4), Integer.parseInt(n[1]));
+      y.hour(3);
+      int[] spoiled = {14, 3, 3, 17, 7, 2};
+      int by = spoiled[Arrays.asList("day", "kind", "dark", "length", "hour", "here").indexOf(n[0])];
+      due("spoiled by " + n[0], y.bale(0, 1), 17 - by > 0 ? 17 - by : NONE);
+    }
   }
 
   // ---- SUMS
