@@ -38,6 +38,7 @@ public final class EdgesOfTextsTest extends Helpers {
     tooMany();
     boundsOfLaws();
     without();
+    mayAlone();
     theText();
     played();
     playedHours();
@@ -782,6 +783,25 @@ public final class EdgesOfTextsTest extends Helpers {
       due("sells with " + i, x.bale(0, 5), i == 3 ? 7 : 30);
       due("may with " + i, x.of(1, 6), i == 4 ? 0 : 1);
     }
+  }
+
+  private static void mayAlone() {
+    heading("whether it may be CUT now by may (1, 0)");
+    BaledShade x = new BaledShade();
+    x.thing(1, 0, 4);
+    due("without REAPERS and BARNS", x.of(0, 6), 1);
+    x.hour(5);
+    due("a SHADOW of 0", x.of(0, 4), 0);
+    due("without may always", x.of(0, 6), 1);
+    rule(x, "may shadow>0;");
+    due("by may", x.of(0, 6), 0);
+    x.hour(1);
+    due("by may an HOUR behind it", x.of(0, 6), 1);
+    rule(x, "may shadow=0;long 0;");
+    due("by may, though it can't be CUT", x.of(0, 6), 1);
+    x.reaper(1);
+    x.barn(1);
+    dueStill("it can't", x, () -> x.cut(0, 0, 0), NONE);
   }
 
   private static void theText() {
