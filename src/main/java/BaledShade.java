@@ -1829,8 +1829,12 @@ public final class BaledShade {
         System.arraycopy(p.barns, 0, p.bestBarns, 0, LOADS);
         return;
       }
-      int kind = p.world.cells[World.KIND + p.loads[i]];
-      int length = p.world.cells[World.LENGTH + p.loads[i]];
+      int load = p.loads[i];
+      if (!p.world.hasBale(load)) {
+        return;
+      }
+      int kind = p.world.cells[World.KIND + load];
+      int length = p.world.cells[World.LENGTH + load];
       for (int b = 0; b < p.world.told.barns && b < BARNS; b++) {
         boolean empty = p.feet[b] == 0;
         if ((empty || p.kinds[b] == kind) && p.feet[b] + length <= p.world.told.room[b]) {
