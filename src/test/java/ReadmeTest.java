@@ -45,7 +45,6 @@ public final class ReadmeTest extends Helpers {
     for (String line : lines) {
       if (line.startsWith("    " + call)) told = line.substring(4 + call.length()).trim();
     }
-    due(call + " as README.md says (" + told + ")", told.startsWith("// " + answer + ":") ? 1 : 0, 1);
-    if (!told.startsWith("// " + answer + ":")) System.out.println(call + " answered " + answer);
+    due("README.md says \"" + told + "\" of " + call + ", which answered " + answer + ": so", told.startsWith("// " + answer + ":"), true);
   }
 }
